@@ -504,13 +504,10 @@ public final class StrongCells {
         private static void keepAtStart(State s, int p, int v) {
             int build = s.get(State.BUILD);
             int kept = s.of(p, State.KEPT);
-            if (!s.isWriter(p)) {
-                if (build == 4) s.set(p, State.BEST, kept);
-            } else if (build == 1) {
-                s.set(p, State.KEPT, v);
-            } else if (build == 3 || build == 4) {
-                s.set(p, State.KEPT, kept + 1);
-            }
+            boolean writer = s.isWriter(p);
+            s.set(p, State.BEST, build == 4 && !writer ? kept : 0);
+            if (writer && build == 1) s.set(p, State.KEPT, v);
+            if (writer && (build == 3 || build == 4)) s.set(p, State.KEPT, kept + 1);
         }
 
         private static void beginAccess(State s, int p) {
@@ -587,10 +584,7 @@ public final class StrongCells {
             if (!s.isWriter(p)) s.setAct(a, State.TOLD, s.of(p, State.BEST) % Plan.WRITER);
             s.setAct(a, State.END, s.get(State.TIME));
             s.set(p, State.ACT, NONE);
-            s.set(p, State.CELL, NONE);
             s.set(p, State.ENDED, 0);
-            s.set(p, State.PLAN, 0);
-            s.set(p, State.BEST, 0);
         }
     }
 
