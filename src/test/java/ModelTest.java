@@ -1,12 +1,15 @@
 import java.util.Random;
 
-/** Long runs of drawn calls, right and wrong ones, on the program and on the slow model; all answers must be alike. */
+/**
+ * Long runs of drawn calls, right and wrong ones, on the program and on the slow model; all answers must be alike.
+ * No object is used for more than the 512 calls that are promised.
+ */
 public final class ModelTest {
     private static int wrong = 0;
-    private static final int CALLS = 500;
+    private static final int LOOK = 19 + 10 + 36 + 56, LOOKS = 2, CALLS = 512 - LOOKS * LOOK;
 
     public static void main(String[] args) {
-        int runs = args.length > 0 ? Integer.parseInt(args[0]) : 120;
+        int runs = args.length > 0 ? Integer.parseInt(args[0]) : 400;
         for (int run = 0; run < runs && wrong < 10; run++) oneRun(run);
         System.out.println(wrong == 0 ? "the program and the model answer alike" : wrong + " answers are not alike");
         if (wrong != 0) System.exit(1);
@@ -18,7 +21,8 @@ public final class ModelTest {
         Model m = new Model();
         StringBuilder calls = new StringBuilder();
         for (int i = 0; i < CALLS; i++) {
-            if (!oneCall(draws, x, m, calls) || i % 8 == 0 && !allAlike(x, m, calls)) {
+            boolean look = i == CALLS / LOOKS || i == CALLS - 1;
+            if (!oneCall(draws, x, m, calls) || look && !allAlike(x, m, calls)) {
                 System.out.println("run " + run + ", call " + i + ":" + tail(calls.toString()));
                 return;
             }
@@ -56,7 +60,7 @@ public final class ModelTest {
         return new int[] {build, pick(d, 2), base, r, readers};
     }
 
-    /** All that is told without going through the ways. */
+    /** All that is told without going through the ways: LOOK calls. */
     private static boolean allAlike(StrongCells x, Model m, StringBuilder calls) {
         boolean same = true;
         for (int i = 0; i <= 18; i++) same = same && alike(calls, "told(" + i + ")", x.told(i), m.told(i));

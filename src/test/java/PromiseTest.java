@@ -1,88 +1,7 @@
 import java.util.Arrays;
 
 /** Each promise of the document by calls whose answers were worked out by hand. */
-public final class PromiseTest {
-    private static final int NONE = -1, UNKNOWN = -1000000001, OUTSIDE = -1000000002, NOT = -1000000003, FULL = -1000000004;
-    private static final int FAR = Integer.MAX_VALUE, FAR_BELOW = Integer.MIN_VALUE;
-
-    private static int wrong = 0;
-    private static String promise = "";
-
-    private static void due(String call, int got, int want) {
-        if (got == want) return;
-        wrong++;
-        System.out.println("promise " + promise + ": " + call + " answered " + got + ", due is " + want);
-    }
-
-    private static void due(String call, int[] got, int... want) {
-        if (Arrays.equals(got, want)) return;
-        wrong++;
-        System.out.println("promise " + promise + ": " + call + " answered " + Arrays.toString(got) + ", due is " + Arrays.toString(want));
-    }
-
-    private static StrongCells built(int build, int poor, int base, int r, int readers) {
-        StrongCells x = new StrongCells();
-        due("build", x.build(build, poor, base, r, readers), readers + (build == 5 ? 2 : 1));
-        return x;
-    }
-
-    private static int[] told(StrongCells x) {
-        int[] all = new int[19];
-        for (int i = 0; i < all.length; i++) all[i] = x.told(i);
-        return all;
-    }
-
-    private static int[] process(StrongCells x, int p) {
-        int[] all = new int[6];
-        for (int i = 0; i < all.length; i++) all[i] = x.process(p, i);
-        return all;
-    }
-
-    private static int[] act(StrongCells x, int a) {
-        int[] all = new int[7];
-        for (int i = 0; i < all.length; i++) all[i] = x.act(a, i);
-        return all;
-    }
-
-    private static int[] cells(StrongCells x) {
-        int[] all = new int[x.told(6)];
-        for (int i = 0; i < all.length; i++) all[i] = x.cell(i);
-        return all;
-    }
-
-    private static int[] ways(StrongCells x) {
-        return new int[] {x.ways(0), x.ways(1), x.ways(2), x.ways(3)};
-    }
-
-    /** All that can be seen of the object, so that what is refused can be seen to change nothing. */
-    private static String all(StrongCells x) {
-        StringBuilder s = new StringBuilder(Arrays.toString(told(x))).append(Arrays.toString(cells(x)));
-        for (int p = 0; p < x.told(5); p++) s.append(Arrays.toString(process(x, p)));
-        for (int a = 0; a < x.told(7); a++) s.append(Arrays.toString(act(x, a)));
-        return s.toString();
-    }
-
-    private static void same(String call, String got, String want) {
-        if (got.equals(want)) return;
-        wrong++;
-        System.out.println("promise " + promise + ": " + call + " left " + got + ", due is " + want);
-    }
-
-    /** Steps of the process with choice 0, till its act ends; how many. */
-    private static int toEnd(StrongCells x, int p) {
-        int n = 0;
-        while (x.process(p, 0) != NONE && n < 50) {
-            x.step(p, 0);
-            n++;
-        }
-        return n;
-    }
-
-    private static void whole(StrongCells x, int p, int v) {
-        x.begin(p, v);
-        toEnd(x, p);
-    }
-
+public final class PromiseTest extends Checks {
     public static void main(String[] args) {
         newObject();
         toldOfTheBuild();
@@ -109,12 +28,11 @@ public final class PromiseTest {
         book();
         seed();
         images();
-        System.out.println(wrong == 0 ? "all promises hold" : wrong + " answers are not as promised");
-        if (wrong != 0) System.exit(1);
+        end("all promises hold");
     }
 
     private static void newObject() {
-        promise = "1";
+        of("promise 1");
         StrongCells x = new StrongCells();
         due("told", told(x), 0, 0, 0, 2, 1, 2, 1, 0, 0, 0, 1, NONE, NONE, NONE, 0, 0, NONE, 0, 0);
         due("cells", cells(x), 0);
@@ -128,7 +46,7 @@ public final class PromiseTest {
     }
 
     private static void toldOfTheBuild() {
-        promise = "2";
+        of("promise 2");
         due("told", told(built(2, 1, 0, 4, 3)), 2, 1, 0, 4, 3, 4, 4, 0, 0, 0, 1, NONE, NONE, NONE, 0, 0, NONE, 0, 0);
         due("told", told(built(4, 0, 1, 3, 3)), 4, 0, 1, 3, 3, 4, 9, 0, 0, 0, 1, NONE, NONE, NONE, 0, 0, NONE, 0, 0);
         due("told", told(built(5, 0, 2, 3, 3)), 5, 0, 2, 3, 3, 5, 2, 0, 0, 0, 1, NONE, NONE, NONE, 0, 0, NONE, 0, 0);
@@ -140,7 +58,7 @@ public final class PromiseTest {
     }
 
     private static void toldOfTheHistory() {
-        promise = "2";
+        of("promise 2");
         StrongCells x = built(0, 0, 0, 4, 2);
         x.begin(0, 1);
         x.begin(1, 0);
@@ -291,7 +209,7 @@ public final class PromiseTest {
     }
 
     private static void cell() {
-        promise = "3";
+        of("promise 3");
         StrongCells x = built(2, 0, 0, 3, 1);
         due("cells", cells(x), 1, 0, 0);
         for (int c : new int[] {-1, 3, FAR, FAR_BELOW}) due("cell(" + c + ")", x.cell(c), UNKNOWN);
@@ -315,7 +233,7 @@ public final class PromiseTest {
     }
 
     private static void process() {
-        promise = "4";
+        of("promise 4");
         StrongCells x = new StrongCells();
         for (int p : new int[] {-1, 2, FAR, FAR_BELOW}) due("process(" + p + ", 0)", x.process(p, 0), UNKNOWN);
         for (int what : new int[] {-1, 6, FAR, FAR_BELOW}) due("process(0, " + what + ")", x.process(0, what), OUTSIDE);
@@ -341,7 +259,7 @@ public final class PromiseTest {
     }
 
     private static void processByBuilds() {
-        promise = "4";
+        of("promise 4");
         StrongCells x = built(1, 1, 0, 2, 1);
         x.begin(0, 1);
         due("keeps the value from the beginning on, poor too", process(x, 0), 0, 0, 0, 0, 1, 1);
@@ -381,7 +299,7 @@ public final class PromiseTest {
     }
 
     private static void act() {
-        promise = "5";
+        of("promise 5");
         StrongCells x = new StrongCells();
         due("act(0, 0)", x.act(0, 0), UNKNOWN);
         due("UNKNOWN first", x.act(0, 7), UNKNOWN);
@@ -456,7 +374,7 @@ public final class PromiseTest {
     }
 
     private static void ways() {
-        promise = "6";
+        of("promise 6");
         StrongCells x = new StrongCells();
         for (int what : new int[] {-1, 4, FAR, FAR_BELOW}) due("ways(" + what + ")", x.ways(what), OUTSIDE);
         x.begin(0, 1);
@@ -494,7 +412,7 @@ public final class PromiseTest {
     }
 
     private static void build() {
-        promise = "7";
+        of("promise 7");
         StrongCells x = new StrongCells();
         x.build(2, 1, 0, 3, 2);
         x.begin(0, 1);
@@ -531,7 +449,7 @@ public final class PromiseTest {
     }
 
     private static void clear() {
-        promise = "8";
+        of("promise 8");
         StrongCells x = built(4, 0, 1, 3, 2);
         due("clear()", x.clear(), 0);
         whole(x, 0, 2);
@@ -553,7 +471,7 @@ public final class PromiseTest {
     }
 
     private static void begin() {
-        promise = "9";
+        of("promise 9");
         StrongCells x = built(0, 0, 0, 3, 2);
         for (int p : new int[] {-1, 3, FAR, FAR_BELOW}) due("begin(" + p + ", 9)", x.begin(p, 9), UNKNOWN);
         for (int v : new int[] {-1, 3, FAR, FAR_BELOW}) due("begin(0, " + v + ")", x.begin(0, v), OUTSIDE);
@@ -584,7 +502,7 @@ public final class PromiseTest {
     }
 
     private static void step() {
-        promise = "10";
+        of("promise 10");
         StrongCells x = built(0, 0, 0, 4, 1);
         for (int p : new int[] {-1, 2, FAR, FAR_BELOW}) due("step(" + p + ", 9)", x.step(p, 9), UNKNOWN);
         due("NOT ahead of OUTSIDE", x.step(1, -1), NOT);
@@ -612,7 +530,7 @@ public final class PromiseTest {
     }
 
     private static void choices() {
-        promise = "10";
+        of("promise 10");
         // Regular: what the cell held, then what is written, in order, each number once.
         StrongCells x = built(0, 0, 1, 4, 1);
         whole(x, 0, 2);
@@ -682,7 +600,7 @@ public final class PromiseTest {
     }
 
     private static void buildChanges() {
-        promise = "9, 10";
+        of("promises 9, 10");
         StrongCells x = built(1, 0, 0, 2, 1);
         x.begin(0, 0);
         due("no access", process(x, 0), 0, 0, 0, NONE, 1, 0);
@@ -708,7 +626,7 @@ public final class PromiseTest {
     }
 
     private static void buildRow() {
-        promise = "9, 10";
+        of("promises 9, 10");
         StrongCells x = built(2, 0, 2, 4, 1);
         x.begin(0, 2);
         x.step(0, 0);
@@ -743,7 +661,7 @@ public final class PromiseTest {
     }
 
     private static void buildRemembers() {
-        promise = "9, 10";
+        of("promises 9, 10");
         StrongCells x = built(3, 0, 1, 4, 1);
         x.begin(0, 2);
         due("stamp from the beginning on", x.process(0, 5), 1);
@@ -784,7 +702,7 @@ public final class PromiseTest {
     }
 
     private static void buildTellsOneAnother() {
-        promise = "9, 10";
+        of("promises 9, 10");
         // Three readers: cells 0 1 2; 3: 0 tells 1, 4: 0 tells 2, 5: 1 tells 0, 6: 1 tells 2, 7: 2 tells 0, 8: 2 tells 1.
         StrongCells x = built(4, 0, 1, 2, 3);
         int[][] path = {{0, 5, 7, 3, 4}, {1, 3, 8, 5, 6}, {2, 4, 6, 7, 8}};
@@ -845,7 +763,7 @@ public final class PromiseTest {
     }
 
     private static void buildTwoWriters() {
-        promise = "9, 10";
+        of("promises 9, 10");
         StrongCells x = built(5, 0, 2, 4, 1);
         x.begin(0, 2);
         due("three accesses", toEnd(x, 0), 3);
@@ -894,7 +812,7 @@ public final class PromiseTest {
     }
 
     private static void run() {
-        promise = "11";
+        of("promise 11");
         StrongCells x = built(0, 0, 1, 2, 2);
         due("run()", x.run(), NOT);
         due("nothing to undo", x.told(17), 0);
@@ -919,7 +837,7 @@ public final class PromiseTest {
     }
 
     private static void bad() {
-        promise = "12";
+        of("promise 12");
         StrongCells x = new StrongCells();
         due("bad()", x.bad(), NOT);
         x.begin(0, 1);
@@ -947,7 +865,7 @@ public final class PromiseTest {
     }
 
     private static void drift() {
-        promise = "13";
+        of("promise 13");
         StrongCells x = new StrongCells();
         for (int n : new int[] {0, -1, 21, FAR, FAR_BELOW}) due("drift(" + n + ")", x.drift(n), OUTSIDE);
         due("no draw", x.told(18), 0);
@@ -982,65 +900,46 @@ public final class PromiseTest {
         due("but draws", x.told(18) != seed, true);
     }
 
-    private static void due(String call, boolean got, boolean want) {
-        due(call, got ? 1 : 0, want ? 1 : 0);
-    }
-
     private static void undo() {
-        promise = "14";
+        of("promise 14");
         StrongCells x = built(4, 0, 1, 3, 2);
-        for (int n : new int[] {0, -1, 17, FAR, FAR_BELOW}) due("undo(" + n + ")", x.undo(n), OUTSIDE);
-        due("undo(1)", x.undo(1), NOT);
-        due("undo(16)", x.undo(16), NOT);
-        String[] was = new String[19];
         x.begin(0, 2);
         x.begin(1, 0);
         for (int i = 0; i < 3; i++) x.step(0, 0);
         due("undo(6)", x.undo(6), NOT);
         x.clear();
-        int deeds = 0;
-        was[deeds++] = moved(x);
-        x.begin(0, 2);
-        was[deeds++] = moved(x);
-        x.begin(1, 0);
-        was[deeds++] = moved(x);
-        x.begin(2, 0);
-        for (int i = 0; i < 15; i++) {
-            was[deeds++] = moved(x);
-            due("step", x.step(i < 12 ? i % 3 : i < 14 ? 1 : 2, 0) >= 0, true);
-        }
+        for (int i = 0; i < 18; i++) move(x, i);
         due("16 are kept", x.told(17), 16);
         due("undo(1)", x.undo(1), 15);
-        same("undo(1)", moved(x), was[17]);
+        same("undo(1)", moved(x), moved(behindMoves(17)));
         due("undo(4)", x.undo(4), 11);
-        same("undo(4)", moved(x), was[13]);
+        same("undo(4)", moved(x), moved(behindMoves(13)));
         x.write(0, 9);
         x.seed(99);
         due("undo(11)", x.undo(11), 0);
-        same("undo(11)", moved(x), was[2]);
+        same("undo(11)", moved(x), moved(behindMoves(2)));
         due("the book stays", x.told(15), 1);
         due("the seed stays", x.told(18), 99);
         due("undo(1)", x.undo(1), NOT);
         x.run();
         due("run is one", x.undo(1), 0);
-        same("run undone", moved(x), was[2]);
-        x.begin(2, 0);
-        x.build(4, 0, 1, 3, 2);
-        due("behind build()", x.undo(1), NOT);
+        same("run undone", moved(x), moved(behindMoves(2)));
     }
 
-    /** All that undoing brings back. */
-    private static String moved(StrongCells x) {
-        StringBuilder s = new StringBuilder();
-        for (int i = 0; i < 15; i++) s.append(x.told(i)).append(' ');
-        s.append(Arrays.toString(cells(x)));
-        for (int p = 0; p < x.told(5); p++) s.append(Arrays.toString(process(x, p)));
-        for (int a = 0; a < x.told(7); a++) s.append(Arrays.toString(act(x, a)));
-        return s.append(x.ways(0)).toString();
+    /** Three begin, then fifteen steps of these; each is a deed. */
+    private static void move(StrongCells x, int i) {
+        if (i < 3) x.begin(i, 2);
+        else due("a step", x.step(i < 15 ? i % 3 : i < 17 ? 1 : 2, 0) >= 0, true);
+    }
+
+    private static StrongCells behindMoves(int n) {
+        StrongCells x = built(4, 0, 1, 3, 2);
+        for (int i = 0; i < n; i++) move(x, i);
+        return x;
     }
 
     private static void book() {
-        promise = "15";
+        of("promise 15");
         StrongCells x = new StrongCells();
         due("write(0, 0)", x.write(0, 0), UNKNOWN);
         whole(x, 0, 1);
@@ -1074,28 +973,28 @@ public final class PromiseTest {
         toEnd(y, 1);
         due("told 0 again", y.told(16), NONE);
 
-        promise = "16";
+        of("promise 16");
         due("tear()", x.tear(), 4);
         due("told(15)", x.told(15), 0);
         due("told(16)", x.told(16), NONE);
         due("tear()", x.tear(), 0);
         due("write(0, 0)", x.write(0, 0), UNKNOWN);
 
-        promise = "15";
+        of("promise 15");
         x.begin(0, 1);
         for (int i = 1; i <= 20; i++) due("write(0, 7)", x.write(0, i == 20 ? 7 : NONE), i);
         due("FULL", x.write(0, 7), FULL);
         due("UNKNOWN ahead of FULL", x.write(1, 7), UNKNOWN);
         due("told(15)", x.told(15), 20);
         due("the last one is wrong", x.told(16), 19);
-        promise = "16";
+        of("promise 16");
         due("tear()", x.tear(), 20);
         due("write(0, NONE)", x.write(0, NONE), 1);
         due("WRONG", x.told(16), NONE);
     }
 
     private static void seed() {
-        promise = "17";
+        of("promise 17");
         StrongCells x = new StrongCells();
         due("seed(5)", x.seed(5), 0);
         due("seed(-1)", x.seed(-1), OUTSIDE);
@@ -1113,7 +1012,7 @@ public final class PromiseTest {
     }
 
     private static void images() {
-        promise = "18";
+        of("promise 18");
         StrongCells x = built(3, 0, 1, 4, 1);
         for (int i : new int[] {-1, 2, FAR, FAR_BELOW}) due("keep(" + i + ")", x.keep(i), UNKNOWN);
         x.begin(0, 3);
@@ -1128,7 +1027,7 @@ public final class PromiseTest {
         due("undo(1)", x.undo(1), NOT);
         same("keep changes nothing else", moved(x), was);
 
-        promise = "19";
+        of("promise 19");
         for (int i : new int[] {-1, 2, FAR, FAR_BELOW}) due("goBack(" + i + ")", x.goBack(i), UNKNOWN);
         due("goBack(1)", x.goBack(1), NOT);
         x.step(1, 1);
