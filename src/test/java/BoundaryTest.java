@@ -536,6 +536,8 @@ public final class BoundaryTest extends Checks {
         due("told by the last reader to the other two", cells(x), 101, 101, 101, 0, 0, 0, 0, 101, 101);
         due("the first act", act(x, 0), 3, NONE, 1, 0, 17, 1, 1);
         due("the second one", act(x, 1), 0, 1, NONE, 1, 7, NONE, NONE);
+        whole(x, 1, 0);
+        due("a read of LAST", act(x, 2), 1, NONE, 1, 18, 28, 1, 1);
     }
 
     private static void asTheLastReadEnds() {
