@@ -237,6 +237,7 @@ public final class StrongCells {
 
     /** All that deeds change, in one row of numbers, so that it can be kept and brought back whole. */
     private static final class State {
+        // BUILD to READERS in the order in which told() tells them
         static final int BUILD = 0, POOR = 1, BASE = 2, R = 3, READERS = 4, TIME = 5, ACTS = 6, HEAD_SIZE = 7;
         static final int MOST_CELLS = 9, MOST_ACTS = 7, MOST_PROCESSES = 5, MOST_NUMBERS = 8;
 
@@ -316,6 +317,7 @@ public final class StrongCells {
         }
 
         boolean isWriter(int p) {
+            // writers() would be one call more, and steps of ALL WAYS go as deep as calls may already.
             return p < (get(BUILD) == 5 ? 2 : 1);
         }
 
